@@ -17,7 +17,7 @@ public final class DrawnSounds {
     private static final int MOST_LAG_SOUGHT = 99;
 
     private final Book book;
-    private final Book[] images;
+    private final Image[] images;
     private int imageCount;
     private final Tape tape;
     private final Drawing drawing;
@@ -28,16 +28,15 @@ public final class DrawnSounds {
     private final Blows soundBlows;
     private final Blows resultBlows;
     private final Crossings crossings;
-    private final Beat grid;
     private final Tones tones;
     private final int[] looped;
 
     /** All rows are made here and used again, so that calls make next to nothing. */
     public DrawnSounds() {
         book = new Book();
-        images = new Book[MOST_IMAGES];
+        images = new Image[MOST_IMAGES];
         for (int i = 0; i < MOST_IMAGES; i++) {
-            images[i] = new Book();
+            images[i] = new Image();
         }
         tape = new Tape();
         drawing = new Drawing();
@@ -48,7 +47,6 @@ public final class DrawnSounds {
         soundBlows = new Blows();
         resultBlows = new Blows();
         crossings = new Crossings();
-        grid = new Beat();
         tones = new Tones();
         looped = new int[3];
     }
@@ -400,8 +398,8 @@ public final class DrawnSounds {
         if (soundBlows.many < 2) {
             return NONE;
         }
-        grid.find(soundBlows);
-        return what == 0 ? grid.step : what == 1 ? grid.start : grid.off;
+        soundBlows.findGrid();
+        return what == 0 ? soundBlows.step : what == 1 ? soundBlows.start : soundBlows.off;
     }
 
     public int onto(int sound, int q) throws NoSuchElementException, IllegalArgumentException {
@@ -415,8 +413,8 @@ public final class DrawnSounds {
         if (soundBlows.many < 2) {
             return UNFIT;
         }
-        grid.find(soundBlows);
-        grid.intoMap(soundBlows, q, free);
+        soundBlows.findGrid();
+        soundBlows.intoMap(q, free);
         free.addRest(row.many);
         return free.lastTo() > MOST_LENGTH ? UNFIT : book.takeMap();
     }
@@ -563,10 +561,10 @@ public final class DrawnSounds {
     }
 
     public int image() {
-        if (imageCount >= MOST_IMAGES) {
+        if (imageCount < 0 || imageCount >= MOST_IMAGES) {
             return FULL;
         }
-        images[imageCount].copyFrom(book);
+        images[imageCount].take(book);
         imageCount++;
         return imageCount;
     }
@@ -576,7 +574,7 @@ public final class DrawnSounds {
             return NONE;
         }
         imageCount--;
-        book.copyFrom(images[imageCount]);
+        images[imageCount].giveBack(book);
         drawing.clear();
         return imageCount;
     }
@@ -1172,10 +1170,16 @@ public final class DrawnSounds {
         }
     }
 
-    /** The blows of a row, in order. */
+    /** The blows of a row, in order, and the grid nearest to them. */
     static final class Blows {
+        static final int LEAST_STEP = 4, MOST_STEP = 200;
+
         final int[] places = new int[MOST_LENGTH / 2];
+        final int[] leaving = new int[MOST_STEP];
         int many;
+        int step;
+        int start;
+        int off;
 
         void find(Row row, Book book) {
             many = 0;
@@ -1197,6 +1201,76 @@ public final class DrawnSounds {
 
         int at(int k) {
             return k >= 0 && k < many && k < places.length ? places[k] : NONE;
+        }
+
+        /** From the greatest step down and the least start up, so only what is less replaces. */
+        void findGrid() {
+            step = 0;
+            for (int p = MOST_STEP; p >= LEAST_STEP; p--) {
+                tryStep(p);
+            }
+        }
+
+        /**
+         * When the start moves one on, a blow that leaves 1 to half of p comes nearer by one,
+         * the others go farther by one, but for the middle one of an odd p, which stays: so
+         * each start's sum comes from the one ahead without a look at all blows again.
+         */
+        private void tryStep(int p) {
+            Arrays.fill(leaving, 0);
+            int sum = 0;
+            for (int i = 0; i < many; i++) {
+                int rest = left(at(i), p);
+                sum += Math.min(rest, p - rest);
+                addLeaving(rest);
+            }
+            int half = p / 2;
+            int nearer = 0;
+            for (int rest = 1; rest <= half; rest++) {
+                nearer += leavingAt(rest);
+            }
+            for (int a = 0; a < p; a++) {
+                take(p, a, sum);
+                int staying = (p & 1) == 1 ? leavingAt(left(a + half + 1, p)) : 0;
+                sum += many - staying - 2 * nearer;
+                nearer += leavingAt(left(a + 1 + half, p)) - leavingAt(left(a + 1, p));
+            }
+        }
+
+        private void addLeaving(int rest) {
+            if (rest >= 0 && rest < leaving.length) {
+                leaving[rest]++;
+            }
+        }
+
+        private int leavingAt(int rest) {
+            return rest >= 0 && rest < leaving.length ? leaving[rest] : 0;
+        }
+
+        private void take(int p, int a, int sum) {
+            if (step == 0 || sum * step < off * p) {
+                step = p;
+                start = a;
+                off = sum;
+            }
+        }
+
+        private int numberOf(int blow) {
+            return cut(2 * (blow - start) + step, 2 * step);
+        }
+
+        /** Marks from the blows to steps of q, by the grid found. */
+        void intoMap(int q, TimeMap map) {
+            map.clear();
+            int first = numberOf(at(0));
+            for (int i = 0; i < many; i++) {
+                int blow = at(i);
+                int to = q * (numberOf(blow) - first + 1);
+                boolean rises = blow > map.lastFrom() && to > map.lastTo();
+                if (rises && map.many < MOST_MARKS - 1) {
+                    map.add(blow, to);
+                }
+            }
         }
     }
 
@@ -1220,14 +1294,6 @@ public final class DrawnSounds {
                 mosts[many] = most;
                 many++;
             }
-        }
-
-        void copyFrom(Plan other) {
-            many = bounded(other.many, 0, MOST_PARTS);
-            System.arraycopy(other.samples, 0, samples, 0, many);
-            System.arraycopy(other.weights, 0, weights, 0, many);
-            System.arraycopy(other.leasts, 0, leasts, 0, many);
-            System.arraycopy(other.mosts, 0, mosts, 0, many);
         }
 
         /** Makes all lengths together the total; false if that can't be. */
@@ -1468,7 +1534,7 @@ public final class DrawnSounds {
         }
     }
 
-    /** All that an image keeps. */
+    /** All that an image tells of. */
     static final class Book {
         final Row[] sounds = new Row[MOST_SOUNDS];
         final TimeMap[] maps = new TimeMap[MOST_MAPS];
@@ -1534,28 +1600,54 @@ public final class DrawnSounds {
         int humFar(int number, int period) {
             return number >= 0 && number < MOST_HUMS ? far(hums[number], period) : 0;
         }
+    }
 
-        void copyFrom(Book other) {
-            soundCount = bounded(other.soundCount, 0, MOST_SOUNDS);
-            for (int i = 0; i < soundCount; i++) {
-                sounds[i].copyFrom(other.sounds[i]);
+    /**
+     * What a book was like. Sounds, maps, ways, parts and hums are only ever added behind
+     * those of the latest image, so how many there were is enough to have them again.
+     */
+    static final class Image {
+        private final Pieces pieces = new Pieces();
+        private final int[] counts = new int[4];
+        private int soundCount;
+        private int mapCount;
+        private int wayCount;
+        private int partCount;
+        private int humCount;
+        private int floor;
+        private int times;
+        private int width;
+
+        void take(Book book) {
+            soundCount = book.soundCount;
+            mapCount = book.mapCount;
+            wayCount = book.wayCount;
+            partCount = book.plan.many;
+            humCount = book.humCount;
+            floor = book.floor;
+            times = book.times;
+            width = book.width;
+            pieces.copyFrom(book.pieces);
+            copyCounts(book.counts, counts);
+        }
+
+        void giveBack(Book book) {
+            book.soundCount = soundCount;
+            book.mapCount = mapCount;
+            book.wayCount = wayCount;
+            book.plan.many = partCount;
+            book.humCount = humCount;
+            book.floor = floor;
+            book.times = times;
+            book.width = width;
+            book.pieces.copyFrom(pieces);
+            copyCounts(counts, book.counts);
+        }
+
+        private static void copyCounts(int[] from, int[] to) {
+            for (int i = 0; i < from.length && i < to.length; i++) {
+                to[i] = from[i];
             }
-            mapCount = bounded(other.mapCount, 0, MOST_MAPS);
-            for (int i = 0; i < mapCount; i++) {
-                maps[i].copyFrom(other.maps[i]);
-            }
-            wayCount = bounded(other.wayCount, 0, MOST_WAYS);
-            for (int i = 0; i < wayCount; i++) {
-                ways[i].copyFrom(other.ways[i]);
-            }
-            humCount = other.humCount;
-            System.arraycopy(other.hums, 0, hums, 0, MOST_HUMS);
-            System.arraycopy(other.counts, 0, counts, 0, counts.length);
-            pieces.copyFrom(other.pieces);
-            plan.copyFrom(other.plan);
-            floor = other.floor;
-            times = other.times;
-            width = other.width;
         }
     }
 
@@ -1740,86 +1832,6 @@ public final class DrawnSounds {
             int to = at(0) + cut(across() * k, intervals());
             if (at(k) > map.lastFrom() && to > map.lastTo()) {
                 map.add(at(k), to);
-            }
-        }
-    }
-
-    /** The grid that blows are nearest to. */
-    static final class Beat {
-        static final int LEAST_STEP = 4, MOST_STEP = 200;
-
-        final int[] leaving = new int[MOST_STEP];
-        int step;
-        int start;
-        int off;
-
-        /** From the greatest step down and the least start up, so only what is less replaces. */
-        void find(Blows blows) {
-            step = 0;
-            for (int p = MOST_STEP; p >= LEAST_STEP; p--) {
-                tryStep(p, blows);
-            }
-        }
-
-        /**
-         * When the start moves one on, a blow that leaves 1 to half of p comes nearer by one,
-         * the others go farther by one, but for the middle one of an odd p, which stays: so
-         * each start's sum comes from the one ahead without a look at all blows again.
-         */
-        private void tryStep(int p, Blows blows) {
-            Arrays.fill(leaving, 0);
-            int sum = 0;
-            for (int i = 0; i < blows.many; i++) {
-                int rest = left(blows.at(i), p);
-                sum += Math.min(rest, p - rest);
-                addLeaving(rest);
-            }
-            int half = p / 2;
-            int nearer = 0;
-            for (int rest = 1; rest <= half; rest++) {
-                nearer += leavingAt(rest);
-            }
-            for (int a = 0; a < p; a++) {
-                take(p, a, sum);
-                int staying = (p & 1) == 1 ? leavingAt(left(a + half + 1, p)) : 0;
-                sum += blows.many - staying - 2 * nearer;
-                nearer += leavingAt(left(a + 1 + half, p)) - leavingAt(left(a + 1, p));
-            }
-        }
-
-        private void addLeaving(int rest) {
-            if (rest >= 0 && rest < leaving.length) {
-                leaving[rest]++;
-            }
-        }
-
-        private int leavingAt(int rest) {
-            return rest >= 0 && rest < leaving.length ? leaving[rest] : 0;
-        }
-
-        private void take(int p, int a, int sum) {
-            if (step == 0 || sum * step < off * p) {
-                step = p;
-                start = a;
-                off = sum;
-            }
-        }
-
-        private int numberOf(int blow) {
-            return cut(2 * (blow - start) + step, 2 * step);
-        }
-
-        /** Marks from the blows to steps of q. */
-        void intoMap(Blows blows, int q, TimeMap map) {
-            map.clear();
-            int first = numberOf(blows.at(0));
-            for (int i = 0; i < blows.many; i++) {
-                int blow = blows.at(i);
-                int to = q * (numberOf(blow) - first + 1);
-                boolean rises = blow > map.lastFrom() && to > map.lastTo();
-                if (rises && map.many < MOST_MARKS - 1) {
-                    map.add(blow, to);
-                }
             }
         }
     }

@@ -4,7 +4,8 @@ public final class BeatTest {
         beats();
         onto();
         ontoMany();
-        ontoFirst();
+        ontoEleven();
+        justAsLong();
         loops();
         joins();
         joinRefusals();
@@ -67,31 +68,29 @@ public final class BeatTest {
 
     private static void ontoMany() {
         DrawnSounds x = new DrawnSounds();
-        // blows at 0, 20, .. 260: 14 of them
-        StringBuilder text = new StringBuilder();
-        for (int k = 0; k < 7; k++) {
-            text.append("blow 900 1;still 19;");
-        }
-        Due.sound(x, text.toString());
-        Due.map(x, "mark 140 140;");
-        x.pieces(20, 1, 0);
+        // blows at 0, 20, .. 140
         Due.sound(x, "blow 900 1;still 19;blow 900 1;still 19;blow 900 1;still 19;blow 900 1;still 19;"
             + "blow 900 1;still 19;blow 900 1;still 19;blow 900 1;still 19;blow 900 1;still 1;");
-        x.join(0, 1);
-        Due.same("6: joined", x.size(2), 139 + 142);
-        x.blowing(200, 3, 4);
-        Due.same("39: p", x.beat(1, 0), 20);
+        Due.same("39: p", x.beat(0, 0), 20);
         // the first at 0 makes no mark; the second one is number 1
-        Due.same("40: onto", x.onto(1, 30), 1);
-        Due.same("8: marks", x.told(1, 0), 8);
-        Due.same("9: the second", x.place(1, 60), 20);
-        Due.same("8: length", x.told(1, 1), 240 + 2);
-        Due.same("40: 1,200 at most", x.onto(1, 150), -2);
-        Due.same("40: just 1,200 is fine", x.onto(1, 149), 2);
-        Due.same("8: length", x.told(2, 1), 149 * 8 + 2);
+        Due.same("40: onto", x.onto(0, 30), 0);
+        Due.same("8: marks", x.told(0, 0), 8);
+        Due.same("9: the second", x.place(0, 60), 20);
+        Due.same("8: length", x.told(0, 1), 240 + 2);
+        Due.same("40: 1,202", x.onto(0, 150), -2);
+        Due.same("40: 1,194", x.onto(0, 149), 1);
+        Due.same("8: length", x.told(1, 1), 149 * 8 + 2);
+        // 0, 49, 99, 149 by 50 from 49 on: the first is 49 below the start, (50 less 98) by 100 is 0
+        Due.sound(x, "blow 900 1;still 48;blow 900 1;still 49;blow 900 1;still 49;blow 900 1;");
+        Due.same("39: p", x.beat(1, 0), 50);
+        Due.same("39: a", x.beat(1, 1), 49);
+        Due.same("39: off", x.beat(1, 2), 1);
+        Due.same("40: below the start", x.onto(1, 10), 2);
+        Due.same("10: number 0 as the first", x.where(2, 49), 10);
+        Due.same("10: number 1", x.where(2, 99), 20);
     }
 
-    private static void ontoFirst() {
+    private static void ontoEleven() {
         DrawnSounds x = new DrawnSounds();
         // the greatest of both signs, 4 apart: 1, 5 .. 57: 11 marks and the end
         Due.sound(x, "tone 4 9 60;");
@@ -111,6 +110,18 @@ public final class BeatTest {
         Due.same("40: just the first rises", x.onto(1, 10), 1);
         Due.same("8: the first and the end", x.told(1, 0), 2);
         Due.same("9: the first", x.place(1, 10), 3);
+    }
+
+    private static void justAsLong() {
+        DrawnSounds x = new DrawnSounds();
+        // 0, 20 .. 100: the last of six at 6 times 150, and 300 or 301 behind
+        String six = "blow 900 1;still 19;blow 900 1;still 19;blow 900 1;still 19;"
+            + "blow 900 1;still 19;blow 900 1;still 19;blow 900 1;";
+        Due.sound(x, six + "still 299;");
+        Due.sound(x, six + "still 300;");
+        Due.same("40: just 1,200", x.onto(0, 150), 0);
+        Due.same("8: just 1,200", x.told(0, 1), 1200);
+        Due.same("40: 1,201", x.onto(1, 150), -2);
     }
 
     private static void loops() {
@@ -157,8 +168,8 @@ public final class BeatTest {
         Due.same("42: not sought as far", x.join(0, 1), 3);
         Due.samples("42: not sought as far", x, 3, 10, 20, 30, 40, (50 + 44) / 2, 7);
         x.pieces(8, 2, 20);
-        Due.same("42: not ahead of the begin", x.join(1, 1), 4);
-        // o 0: 14 + 37; o 1: 0 + 0
+        Due.same("42: of alike ones the least o", x.join(1, 1), 4);
+        // o 0: 14 + 37; o 1: 0 + 0; no further back
         Due.samples("42: not ahead of the begin", x, 4, 30, 44, 7);
         Due.same("42: there are five", x.join(0, 1), -1);
         Due.same("14: no result comes of it", x.length(), 0);
@@ -178,8 +189,8 @@ public final class BeatTest {
         Due.same("6: just 600", x.size(3), 600);
         x.pieces(16, 3, 0);
         Due.same("42: longer than 600", x.join(1, 2), -2);
-        Due.same("42: of alike ones the least o", x.join(2, 2), 4);
-        Due.same("6: of alike ones the least o", x.size(4), 5);
+        Due.same("42: both just over", x.join(0, 0), 4);
+        Due.same("6: both just over", x.size(4), 3);
         Due.same("42: -1 ahead of -2", x.join(1, 2), -1);
     }
 

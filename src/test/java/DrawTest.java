@@ -10,6 +10,7 @@ public final class DrawTest {
         sharp();
         keep();
         keepTooLong();
+        atFirst();
         Due.end();
     }
 
@@ -188,6 +189,39 @@ public final class DrawTest {
         Due.same("55: there are five", x.count(0), 5);
     }
 
+    /** A new object draws by 16, 4, 3, and finds blows by 200, 3, 8. */
+    private static void atFirst() {
+        DrawnSounds x = new DrawnSounds();
+        DrawnSounds y = new DrawnSounds();
+        Due.same("11: as at first", y.pieces(16, 4, 3), 16);
+        Due.same("18: as at first", y.blowing(200, 3, 8), 200);
+        String text = "tone 23 80 100;hum 9 70;blow 600 9;tone 31 199 80;blow 900 9;hiss 30 30 7;blow 200 30;";
+        for (DrawnSounds one : new DrawnSounds[] {x, y}) {
+            Due.sound(one, text);
+            Due.map(one, "mark 200 330;mark 258 350;");
+            one.draw(0, 0);
+        }
+        for (int k = 0; k < 29; k++) {
+            for (int what = 0; what < 3; what++) {
+                Due.same("11: at first, seam " + k, x.seam(k, what), y.seam(k, what));
+            }
+        }
+        int far = 0;
+        for (int k = 0; x.seam(k, 0) != -5000; k++) {
+            boolean within = x.place(0, x.seam(k, 0)) <= x.size(0) - 16;
+            far = Math.max(far, within ? Math.abs(x.seam(k, 1)) : 0);
+        }
+        Due.same("11: 3 are sought", far, 3);
+        Due.sound(x, "still 20;blow 199 1;still 9;blow 200 1;still 7;blow 600 1;still 8;blow 600 1;still 8;blow 200 1;");
+        Due.same("18: 200 at first", x.blow(1, 0), 30);
+        Due.same("18: 8 at first", x.blow(1, 1), 47);
+        Due.same("18: 8 at first", x.blow(1, 2), 56);
+        Due.same("18: 8 at first", x.blow(1, 3), -1);
+        Due.sound(x, "still 9;blow 100 1;blow 299 1;still 9;blow 100 1;blow 300 1;");
+        Due.same("18: 3 times at first", x.blow(2, 0), 21);
+        Due.same("18: 3 times at first", x.blow(2, 1), -1);
+    }
+
     private static void keepTooLong() {
         DrawnSounds x = new DrawnSounds();
         Due.sound(x, "still 16;");
@@ -195,9 +229,13 @@ public final class DrawTest {
         Due.map(x, "mark 16 601;");
         x.draw(0, 0);
         Due.same("17: 600", x.keep(), 1);
+        Due.map(x, "mark 1 1;");
+        x.draw(0, 2);
+        Due.same("17: one alone", x.keep(), 2);
+        Due.same("6: one alone", x.size(2), 1);
         x.draw(0, 1);
         Due.same("17: 601", x.keep(), -2);
-        for (int k = 0; k < 3; k++) {
+        for (int k = 0; k < 2; k++) {
             Due.sound(x, "still 1;");
         }
         Due.same("17: -1 ahead of -2", x.keep(), -1);

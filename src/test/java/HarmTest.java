@@ -7,6 +7,7 @@ public final class HarmTest {
         harmWhen();
         counts();
         ways();
+        betweenMarks();
         bestRefusals();
         Due.end();
     }
@@ -205,6 +206,29 @@ public final class HarmTest {
         Due.same("23: a way", x.way(4, 1, 0), 3);
         Due.same("23: a way too many", x.way(4, 1, 0), -1);
         Due.thrown("23: none such comes first", Due.WRONG, () -> x.way(4, 3, 0));
+    }
+
+    /** A seam at the first mark's T is of the part behind it, not of the one ahead. */
+    private static void betweenMarks() {
+        DrawnSounds x = new DrawnSounds();
+        Due.sound(x, "still 8;blow 90 1;blow 80 1;blow 1000 1;still 9;");
+        Due.map(x, "mark 8 6;mark 10 8;mark 20 20;");
+        // by 4, 2 seams stand at 2, 4, 6 ..; by 5, 1 at 4, 8 ..
+        x.way(4, 2, 0);
+        x.way(5, 1, 0);
+        x.pieces(4, 2, 0);
+        x.draw(0, 0);
+        Due.same("16: r", x.seam(2, 0), 6);
+        Due.same("16: unlike at 4", x.seam(1, 2), 0);
+        Due.same("16: unlike at 6", x.seam(2, 2), 90 + 10);
+        Due.same("16: unlike at 8", x.seam(3, 2), 0);
+        x.pieces(5, 1, 0);
+        x.draw(0, 0);
+        Due.same("16: unlike at 4", x.seam(0, 2), 0);
+        Due.same("16: r", x.seam(1, 0), 8);
+        Due.same("16: unlike at 8", x.seam(1, 2), 920);
+        Due.same("25: 6 is not of the first part", x.bestOf(0, 0, 0), 0);
+        Due.same("25: 6 is, 8 is not of the second part", x.bestOf(0, 0, 1), 1);
     }
 
     private static void bestRefusals() {

@@ -34,6 +34,8 @@ public final class ImageTest {
         Due.same("50: at once", x.lag(5, 5, 20, 50), 0);
         Due.same("50: two", x.lag(5, 6, 40, 10), 2);
         Due.same("50: all ticks", x.lag(0, 1, 5, 50), 50);
+        Due.same("50: just full at the end", x.lag(1, 99, 10, 10), 10);
+        Due.same("50: too full at the end", x.lag(1, 99, 9, 10), -1);
         Due.same("50: 99", x.lag(0, 1, 5, 99), 99);
         Due.same("50: 100 is too much", x.lag(0, 1, 5, 100), -1);
         Due.same("50: never", x.lag(9, 1, 8, 1), -1);
@@ -160,7 +162,7 @@ public final class ImageTest {
         x.way(12, 4, 1);
         x.part(99, 9, 99, 99);
         x.hum(999);
-        Due.same("12: drawn", x.draw(1, 1), 7);
+        Due.same("12: drawn", x.draw(x.count(0) - 2, x.count(1) - 1), 7);
     }
 
     private static void imagesFull() {
@@ -177,6 +179,11 @@ public final class ImageTest {
         }
         Due.same("54: no more", x.restore(), -1);
         Due.same("53: anew", x.image(), 1);
+        changeAll(x);
+        Due.same("54: all gone", x.restore(), 0);
+        for (int what = 0; what <= 6; what++) {
+            Due.same("55: all gone: " + what, x.count(what), 0);
+        }
         ways();
     }
 

@@ -5,6 +5,7 @@ public final class PlanTest {
         plans();
         maps();
         maps2();
+        dearest();
         Due.end();
     }
 
@@ -95,6 +96,21 @@ public final class PlanTest {
         Due.same("28: there are five", x.planMap(30), -1);
         Due.same("28: -1 ahead of -2", x.planMap(63), -1);
         Due.thrown("28: the total comes first", Due.WRONG, () -> x.planMap(-1));
+    }
+
+    /** Weights of 99 are spent as others are; a part of one is a mark; so is a plan of one. */
+    private static void dearest() {
+        DrawnSounds x = new DrawnSounds();
+        x.part(5, 99, 1, 9);
+        planned(x, 8, 3 * 99, 8);
+        Due.same("28: one part", x.planMap(7), 0);
+        Due.same("8: one mark", x.told(0, 0), 1);
+        Due.same("8: one mark", x.told(0, 1), 7);
+        x.part(6, 98, 1, 9);
+        planned(x, 2, 4 * 99 + 5 * 98, 1, 1);
+        Due.same("28: lengths of one", x.planMap(2), 1);
+        Due.same("8: two marks", x.told(1, 0), 2);
+        Due.same("9: two marks", x.place(1, 1), 5);
     }
 
     private static void maps2() {
