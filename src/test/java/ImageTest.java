@@ -113,7 +113,9 @@ public final class ImageTest {
         Due.map(x, "mark 1 2;mark 3 4;");
         x.pieces(20, 5, 6);
         x.blowing(33, 4, 5);
+        x.weigh(0, 66);
         x.weigh(2, 77);
+        x.weigh(3, 88);
         x.way(10, 3, 1);
         x.part(10, 1, 5, 20);
         x.hum(444);
@@ -141,7 +143,10 @@ public final class ImageTest {
         Due.same("54: the map", x.place(0, 3), 2);
         Due.same("54: the pieces", x.pieces(16, 4, 3), 20);
         Due.same("54: the blows told", x.blowing(200, 3, 8), 33);
+        Due.same("54: what harm counts", x.weigh(0, 0), 66);
+        Due.same("54: what harm counts", x.weigh(1, 0), 100);
         Due.same("54: what harm counts", x.weigh(2, 0), 77);
+        Due.same("54: what harm counts", x.weigh(3, 0), 88);
         Due.same("54: the parts", x.planned(12, 0), 12);
         Due.same("54: the parts", x.planned(12, -1), 2);
         Due.sound(x, "tone 4 9 30;");
@@ -158,7 +163,9 @@ public final class ImageTest {
         Due.map(x, "mark 40 60;");
         x.pieces(10, 2, 1);
         x.blowing(99, 1, 1);
+        x.weigh(0, 4);
         x.weigh(2, 5);
+        x.weigh(3, 6);
         x.way(12, 4, 1);
         x.part(99, 9, 99, 99);
         x.hum(999);

@@ -111,6 +111,12 @@ public final class PlanTest {
         Due.same("28: lengths of one", x.planMap(2), 1);
         Due.same("8: two marks", x.told(1, 0), 2);
         Due.same("9: two marks", x.place(1, 1), 5);
+        DrawnSounds y = new DrawnSounds();
+        y.part(10, 0, 5, 5);
+        y.part(7, 1, 0, 0);
+        Due.same("28: the second goes into the first", y.planMap(5), 0);
+        Due.same("8: one mark", y.told(0, 0), 1);
+        Due.same("8: all samples", y.told(0, 2), 17);
     }
 
     private static void maps2() {

@@ -122,6 +122,8 @@ public final class TextsTest {
         faulty(x, "still 4 ", 1, 8);
         faulty(x, "  stil 4;", 1, 2);
         faulty(x, "stills 4;", 1, 0);
+        faulty(x, "xtill 4;", 1, 0);
+        faulty(x, "stilx 4;", 1, 0);
         faulty(x, "still4s;", 1, 6);
         faulty(x, ";", 1, 0);
         faulty(x, "still 4;;", 1, 8);
@@ -207,6 +209,7 @@ public final class TextsTest {
         faultyMap(x, "mark 1 1", 1, 8);
         faultyMap(x, " marks 1 1;", 1, 1);
         faultyMap(x, "still 1;", 1, 0);
+        faultyMap(x, "bark 1 1;", 1, 0);
         faultyMap(x, "mark 0 1;", 2, 5);
         faultyMap(x, "mark 601 1;", 2, 5);
         faultyMap(x, "mark 1 0;", 2, 7);
