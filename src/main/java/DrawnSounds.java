@@ -67,23 +67,23 @@ public final class DrawnSounds {
 
     public int sound(int n) throws IllegalArgumentException {
         need(n >= 0 && n <= tape.many);
-        tape.many = 0;
+        tape.takeText(n);
         Row row = book.freeSound();
         if (row == null) {
             return FULL;
         }
-        tape.readSound(n, row);
+        tape.readSound(row);
         return tape.fault == 0 ? book.takeSound() : tape.fault - 10;
     }
 
     public int map(int n) throws IllegalArgumentException {
         need(n >= 0 && n <= tape.many);
-        tape.many = 0;
+        tape.takeText(n);
         TimeMap free = book.freeMap();
         if (free == null) {
             return FULL;
         }
-        tape.readMap(n, free);
+        tape.readMap(free);
         return tape.fault == 0 ? book.takeMap() : tape.fault - 10;
     }
 
@@ -1369,8 +1369,19 @@ public final class DrawnSounds {
             }
         }
 
-        void readSound(int length, Row row) {
-            begin(length);
+        /**
+         * The first bytes become the latest text, which has no fault of its own yet, be it
+         * read or not; the tape is empty from now on.
+         */
+        void takeText(int length) {
+            many = 0;
+            at = 0;
+            end = bounded(length, 0, MOST_BYTES);
+            fault = 0;
+            faultAt = 0;
+        }
+
+        void readSound(Row row) {
             row.start(0);
             for (int clauses = 0; clauses <= MOST_CLAUSES && moreComes(); clauses++) {
                 readWord();
@@ -1382,8 +1393,7 @@ public final class DrawnSounds {
             }
         }
 
-        void readMap(int length, TimeMap map) {
-            begin(length);
+        void readMap(TimeMap map) {
             map.clear();
             for (int marks = 0; marks <= MOST_MARKS && moreComes(); marks++) {
                 readWord();
@@ -1402,13 +1412,6 @@ public final class DrawnSounds {
             if (map.many == 0) {
                 fail(EMPTY, end);
             }
-        }
-
-        private void begin(int length) {
-            at = 0;
-            end = bounded(length, 0, MOST_BYTES);
-            fault = 0;
-            faultAt = 0;
         }
 
         /** The first fault stays; behind it all reading does nothing. */

@@ -12,6 +12,7 @@ public final class TextsTest {
         mapFaults();
         mapsFull();
         mapsTold();
+        textsNotRead();
         Due.end();
     }
 
@@ -271,5 +272,46 @@ public final class TextsTest {
         Due.same("10: beyond", x.where(0, 600), -1);
         Due.thrown("10: no such map", Due.NO_MAP, () -> x.where(1, 0));
         Due.thrown("10: no such map", Due.NO_MAP, () -> x.where(-1, 0));
+    }
+
+    /** The fault is the latest text's: one that is not read has none, whatever was there ahead. */
+    private static void textsNotRead() {
+        DrawnSounds x = new DrawnSounds();
+        for (int k = 0; k < 5; k++) {
+            Due.sound(x, "still 1;");
+        }
+        faultyMap(x, "mark 1 1; mork", 1, 10);
+        Due.same("3: a sixth sound", Due.sound(x, "  stil"), -1);
+        Due.same("5: it is not read", x.fault(), -1);
+        faultyMap(x, "mark 1 1201;", 2, 7);
+        Due.thrown("3: more than the tape has, though five are there", Due.WRONG, () -> x.sound(1));
+        Due.same("5: no text was given", x.fault(), 7);
+        Due.same("3: a sixth sound of no bytes", x.sound(0), -1);
+        Due.same("5: it is not read", x.fault(), -1);
+        for (int k = 0; k < 5; k++) {
+            Due.map(x, "mark 1 1;");
+        }
+        Due.same("4: a sixth map", Due.map(x, "mark 1"), -1);
+        Due.same("5: it is not read", x.fault(), -1);
+
+        DrawnSounds y = new DrawnSounds();
+        for (int k = 0; k < 5; k++) {
+            Due.map(y, "mark 1 1;");
+        }
+        faulty(y, "hum 4 8;", 4, 8);
+        Due.same("4: a sixth map that would have been right", Due.map(y, "mark 1 1;"), -1);
+        Due.same("5: it is not read", y.fault(), -1);
+        faulty(y, "still 0;", 2, 6);
+        Due.thrown("4: fewer than none", Due.WRONG, () -> y.map(-1));
+        Due.same("5: no text was given", y.fault(), 6);
+        Due.same("4: a sixth map of no bytes", y.map(0), -1);
+        Due.same("5: it is not read", y.fault(), -1);
+        faulty(y, "tone 3 8 4;", 2, 5);
+        Due.same("48: a map too many", y.film(y.sound(Due.feed(y, "still 1;")), 1, 1), -1);
+        Due.same("5: the latest text is the sound's", y.fault(), -1);
+        faulty(y, "tone 3 8 4;", 2, 5);
+        Due.same("48: a map too many that is no text", y.film(0, 1, 1), -1);
+        Due.same("17: a sound too many that is no text", y.keep(), -2);
+        Due.same("5: they change nothing", y.fault(), 5);
     }
 }
