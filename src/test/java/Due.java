@@ -41,6 +41,52 @@ final class Due {
         System.out.println(what + ": " + got + ", due is " + due.getName());
     }
 
+    /** The call throws just this, and what can be asked without a change is as it was. */
+    static void refused(String what, DrawnSounds x, Class<?> due, Call call) {
+        String ahead = state(x);
+        thrown(what, due, call);
+        stays(what, x, ahead);
+    }
+
+    /** The call answers just this, and what can be asked without a change is as it was. */
+    static void unchanged(String what, DrawnSounds x, long due, Call call) {
+        String ahead = state(x);
+        same(what, call.answer(), due);
+        stays(what, x, ahead);
+    }
+
+    private static void stays(String what, DrawnSounds x, String ahead) {
+        asked++;
+        String now = state(x);
+        if (!now.equals(ahead)) {
+            wrong++;
+            System.out.println(what + ": changed " + ahead + "to " + now);
+        }
+    }
+
+    /** Counts, the fault, and the RESULT with its SEAMS and HARM. */
+    private static String state(DrawnSounds x) {
+        StringBuilder all = new StringBuilder();
+        for (int what = 0; what <= 7; what++) {
+            all.append(x.count(what)).append(' ');
+        }
+        int length = x.length();
+        int seams = x.count(2);
+        all.append("fault ").append(x.fault()).append(" length ").append(length).append(" ends ");
+        all.append(x.result(0)).append(' ').append(x.result(length - 1)).append(" seam ");
+        all.append(x.seam(seams - 1, 1)).append(' ').append(x.seam(seams - 1, 2)).append(" harm ");
+        return all.append(x.harm(0)).append(' ').toString();
+    }
+
+    /** A text for these samples, of 0 or more each, 16 at most. */
+    static String row(int... samples) {
+        StringBuilder text = new StringBuilder();
+        for (int one : samples) {
+            text.append(one == 0 ? "still" : "blow " + one).append(" 1;");
+        }
+        return text.toString();
+    }
+
     /** The texts' bytes come on the tape; their number. */
     static int feed(DrawnSounds x, int... bytes) {
         for (int k = 0; k < bytes.length; k += 20) {
