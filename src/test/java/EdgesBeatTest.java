@@ -290,10 +290,11 @@ public final class EdgesBeatTest {
             Due.refused("41: at least " + least, x, Due.WRONG, () -> x.loop(0, least, 0));
         }
         for (int what : new int[] {-1, 3, LEAST, MOST}) {
-            Due.refused("41: what " + what, x, Due.WRONG, () -> x.loop(0, 1, what));
-            Due.refused("41: what " + what + " where there is none", x, Due.WRONG, () -> x.loop(0, 600, what));
-            Due.refused("41: no such sound comes first", x, Due.NO_SOUND, () -> x.loop(1, 0, what));
-            Due.refused("41: no such sound comes first", x, Due.NO_SOUND, () -> x.loop(-1, 0, what));
+            DrawnSounds one = rows(1, 5, 5);
+            Due.refused("41: what " + what, one, Due.WRONG, () -> one.loop(0, 1, what));
+            Due.refused("41: what " + what + " where there is none", one, Due.WRONG, () -> one.loop(0, 600, what));
+            Due.refused("41: no such sound comes first", one, Due.NO_SOUND, () -> one.loop(1, 0, what));
+            Due.refused("41: no such sound comes first", one, Due.NO_SOUND, () -> one.loop(-1, 0, what));
         }
         DrawnSounds y = new DrawnSounds();
         Due.sound(y, "still 300;still 300;");

@@ -14,6 +14,7 @@ public final class EdgesDrawTest {
         piecesThatAreRefusedStayAsTheyWere();
         asManyAsWide();
         seamsBelowLength();
+        drawnByTwelveMarks();
         mostSeams();
         notAboveSamplesLessWide();
         notBelowZero();
@@ -162,6 +163,22 @@ public final class EdgesDrawTest {
             }
             Due.same("16: none behind", x.seam(one[1], 0), -5000);
         }
+    }
+
+    /** "1 to 12" marks: DRAWN by all of them. */
+    private static void drawnByTwelveMarks() {
+        StringBuilder twelve = new StringBuilder();
+        for (int k = 1; k <= 12; k++) {
+            twelve.append("mark ").append(k).append(' ').append(2 * k).append(';');
+        }
+        DrawnSounds x = made(Due.row(1, 2, 3, 4, 5, 6, 7, 8, 9, 10, 11, 500), twelve.toString(), 4, 1, 0);
+        Due.same("12: seams", x.draw(0, 0), 7);
+        Due.same("14: up to the twelfth", x.length(), 24);
+        seam("16: the last one: PLACE 10 of 0 to 8", x, 6, 21, -2, 500 - 9);
+        x.blowing(500, 1, 1);
+        Due.same("10: where", x.where(0, 11), 22);
+        Due.same("13: a blow at the twelfth", x.sharp(0, 0), 1);
+        Due.same("15: it stands there", x.result(22), 500);
     }
 
     /** The most SEAMS there may be: the narrowest PIECES, half over, to the greatest LENGTH. */
@@ -491,8 +508,8 @@ public final class EdgesDrawTest {
 
     /** Promises 12, 13: the exceptions "in the order of throws" */
     private static void drawRefusals() {
-        DrawnSounds x = made("still 15;", "mark 16 20;", 16, 4, 3);
         for (int none : new int[] {-1, 1, LEAST, MOST}) {
+            DrawnSounds x = made("still 15;", "mark 16 20;", 16, 4, 3);
             Due.refused("12: no such sound comes first", x, Due.NO_SOUND, () -> x.draw(none, none));
             Due.refused("12: no such map comes next", x, Due.NO_MAP, () -> x.draw(0, none));
             Due.refused("13: no such sound comes first", x, Due.NO_SOUND, () -> x.sharp(none, none));

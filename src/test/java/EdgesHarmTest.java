@@ -453,14 +453,16 @@ public final class EdgesHarmTest {
         x.way(5, 1, 0);
         Due.same("25: 5 is not of the second part", x.bestOf(0, 0, 1), 0);
         Due.same("25: 5 is of the third part", x.bestOf(0, 0, 2), 1);
-        DrawnSounds y = made(Due.row(0, 0, 0, 0, 0, 0, 0, 0, 100, 100, 100, 100, 100, 100, 100, 100),
+        // PLACE of 5 is 6 here, where 0 meets 100; the second T is 6
+        DrawnSounds y = made(Due.row(0, 0, 0, 0, 0, 0, 100, 0, 0, 0, 0, 0, 0, 0, 0, 0),
             "mark 4 4;mark 9 6;mark 11 8;", 6, 1, 0);
         y.way(6, 1, 0);
         y.way(5, 1, 0);
         y.draw(0, 0);
         Due.same("9: PLACE of 5", y.place(0, 5), 6);
-        Due.same("16: unlike at 5", y.seam(0, 2), 0);
-        Due.same("25: 5 is the last of the second part", y.bestOf(0, 0, 1), 0);
+        Due.same("16: unlike at 5", y.seam(0, 2), 100);
+        Due.same("25: 5 is the last of the second part", y.bestOf(0, 0, 1), 1);
+        Due.same("25: it is not of the third part", y.bestOf(0, 0, 2), 0);
     }
 
     /** "BEST OF A PART (from 0 on)"; "IllegalArgumentException: no such PART" */
@@ -504,16 +506,16 @@ public final class EdgesHarmTest {
 
     /** "Of several refusals of one call the first in the order of throws" */
     private static void refusalsInTheirOrder() {
-        DrawnSounds x = made("still 20;", "mark 21 30;", 16, 4, 3);
-        x.way(4, 1, 0);
         for (int none : new int[] {-1, 1, LEAST, MOST}) {
+            DrawnSounds x = made("still 20;", "mark 21 30;", 16, 4, 3);
+            x.way(4, 1, 0);
             Due.refused("24: no such sound", x, Due.NO_SOUND, () -> x.best(none, none));
             Due.refused("24: no such map", x, Due.NO_MAP, () -> x.best(0, none));
             Due.refused("25: no such sound", x, Due.NO_SOUND, () -> x.bestOf(none, none, none));
             Due.refused("25: no such map", x, Due.NO_MAP, () -> x.bestOf(0, none, none));
             Due.refused("25: no such part", x, Due.WRONG, () -> x.bestOf(0, 0, none));
+            Due.refused("24: the map asks for more", x, Due.UNFIT, () -> x.best(0, 0));
+            Due.refused("25: the map asks for more", x, Due.UNFIT, () -> x.bestOf(0, 0, 0));
         }
-        Due.refused("24: the map asks for more", x, Due.UNFIT, () -> x.best(0, 0));
-        Due.refused("25: the map asks for more", x, Due.UNFIT, () -> x.bestOf(0, 0, 0));
     }
 }

@@ -233,8 +233,8 @@ public final class EdgesSpeedTest {
 
     /** "IllegalArgumentException: the PERIOD told (400 to 6,000)." */
     private static void undoLimits() {
-        DrawnSounds x = made("tone 8 80 40;");
         for (int period : new int[] {399, 6001, 0, -400, LEAST, MOST}) {
+            DrawnSounds x = made("tone 8 80 40;");
             Due.refused("37: " + period, x, Due.WRONG, () -> x.undo(0, period));
             Due.refused("37: no such sound comes first", x, Due.NO_SOUND, () -> x.undo(1, period));
             Due.refused("37: no such sound comes first", x, Due.NO_SOUND, () -> x.undo(-1, period));

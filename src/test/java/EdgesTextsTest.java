@@ -33,6 +33,8 @@ public final class EdgesTextsTest {
         faultsAtTheLength();
         nothingThere();
         ofOnePlaceTheLeastFault();
+        nothingOfAFaultyMapStays();
+        nothingOfAFaultySoundStays();
         feedHighestByteFirst();
         feedUpTo300();
         soundTakesTheFirstBytes();
@@ -534,6 +536,49 @@ public final class EdgesTextsTest {
         wrong("hum 4 1;".repeat(16), 4, 128);
         wrongMap("", 4, 0);
         wrongMap("  ", 4, 2);
+    }
+
+    /** A text with a FAULT is no MAP: nothing of it is in the next one, however that is made. */
+    private static DrawnSounds afterAFaultyMap() {
+        DrawnSounds x = new DrawnSounds();
+        Due.sound(x, "still 4;tone 4 900 12;");
+        x.blowing(900, 1, 1);
+        x.part(16, 1, 16, 16);
+        Due.same("4: two right marks and a wrong one", Due.map(x, "mark 100 200;mark 150 300;mark 150 400;"), -8);
+        Due.same("55: no map", x.count(1), 0);
+        return x;
+    }
+
+    private static void nothingOfAFaultyMapStays() {
+        for (int way = 0; way <= 5; way++) {
+            DrawnSounds x = afterAFaultyMap();
+            int made = way == 0 ? x.film(0, 16, 1) : way == 1 ? x.undo(0, 400) : way == 2 ? x.steady(0)
+                : way == 3 ? x.onto(0, 1) : way == 4 ? x.planMap(16) : Due.map(x, "mark 16 16;");
+            Due.same("4: the first map by way " + way, made, 0);
+            Due.same("8: all samples by way " + way, x.told(0, 2), 16);
+            Due.same("9: place of 0 by way " + way, x.place(0, 0), 0);
+            // blows at 5, 7 .. 15 are nearest by 200, all number 0: the first one to 1, and 11 behind it
+            Due.same("8: length by way " + way, x.told(0, 1), way == 3 ? 12 : 16);
+            // 8 and 12 are the crossings
+            Due.same("8: marks by way " + way, x.told(0, 0), way == 2 ? 3 : way == 3 ? 2 : 1);
+        }
+    }
+
+    /** Likewise a text that is no SOUND. */
+    private static void nothingOfAFaultySoundStays() {
+        DrawnSounds x = new DrawnSounds();
+        Due.same("3: two right clauses and a wrong one", Due.sound(x, "blow 900 30;blow 800 30;xyz"), -9);
+        Due.same("3: the first one", Due.sound(x, "still 4;"), 0);
+        Due.samples("3: the first one", x, 0, 0, 0, 0, 0);
+        Due.sound(x, "blow 900 30;hum 4 2000;still 0;");
+        x.pieces(4, 2, 0);
+        Due.same("42: the second one", x.join(0, 0), 1);
+        Due.samples("42: the second one", x, 1, 0, 0, 0, 0, 0, 0);
+        Due.sound(x, "blow 900 30;still 301;");
+        Due.map(x, "mark 4 5;");
+        x.draw(0, 0);
+        Due.same("17: the third one", x.keep(), 2);
+        Due.samples("17: the third one", x, 2, 0, 0, 0, 0, 0);
     }
 
     /** "of one the least" */

@@ -428,6 +428,16 @@ public final class EdgesToneTest {
             Due.same("46: locked " + one[0], x.lock(0, one[0], 0, 3), one[1]);
         }
         Due.same("46: of silence", x.lock(0, 60, 1, 1), 4);
+        // 4, 8, 16, 36, 72, 144, 144, 232, 196, 232 by 4 to 13: all below 9 are less than the next, 10 is no greater
+        DrawnSounds y = made(Due.row(1, 3, 3, 3, 3, 1));
+        int[] strengths = {4, 8, 16, 36, 72, 144, 144, 232, 196, 232};
+        for (int p = 4; p <= 13; p++) {
+            Due.same("30: by " + p, y.turned(0, p, 0, 6, 2), strengths[p - 4]);
+        }
+        for (int p = 4; p <= 10; p++) {
+            Due.same("46: locked " + p, y.lock(0, p, 0, 6), 9);
+        }
+        Due.same("46: locked 11", y.lock(0, 11, 0, 6), 11);
         Due.same("46: of none", x.lock(0, 60, 3, 0), 4);
     }
 

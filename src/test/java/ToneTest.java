@@ -269,7 +269,7 @@ public final class ToneTest {
         Due.same("45: silence has no more", x.peak(1, 0, 20, 1), -1);
         Due.same("45: of alike ones the least", x.peak(1, 0, 41, 0), 4);
         Due.same("46: of silence", x.lock(1, 60, 0, 20), 4);
-        locks(x);
+        locks();
         Due.thrown("45: not in the sound", Due.WRONG, () -> x.peak(0, 0, 141, 0));
         Due.thrown("45: not in the sound", Due.WRONG, () -> x.peak(0, -1, 5, 0));
         Due.thrown("45: not in the sound", Due.WRONG, () -> x.peak(0, 5, -1, 0));
@@ -280,8 +280,9 @@ public final class ToneTest {
         Due.thrown("46: no such sound", Due.NO_SOUND, () -> x.lock(2, 3, 0, 141));
     }
 
-    private static void locks(DrawnSounds x) {
+    private static void locks() {
         for (int p = 4; p <= 60; p++) {
+            DrawnSounds x = again();
             int nearest = -1;
             for (int k = 0; x.peak(0, 0, 40, k) != -1; k++) {
                 int peak = x.peak(0, 0, 40, k);
@@ -289,9 +290,6 @@ public final class ToneTest {
                 nearest = nearest == -1 || by < 0 || by == 0 && peak < nearest ? peak : nearest;
             }
             Due.same("46: locked " + p, x.lock(0, p, 0, 40), nearest);
-            if (p > 50) {
-                x = again();
-            }
         }
     }
 
