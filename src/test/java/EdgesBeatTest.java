@@ -522,6 +522,15 @@ public final class EdgesBeatTest {
             }
         }
         Due.result("43: the end", x, 1, 67, 80, 40, 18, 14, 30, 60, 80, (60 + 30) / 2);
+        // the same where a longer sound was, which an image has taken away
+        DrawnSounds again = new DrawnSounds();
+        again.image();
+        Due.sound(again, "hum 4 1;blow 2000 1;".repeat(8) + "hiss 2000 300 1;");
+        again.restore();
+        Due.sound(again, Due.row(1, 100, 40, 7, 30, 75, 200, 15, 60, 90));
+        again.pieces(4, 2, 2);
+        again.shift(0, 2, 3);
+        Due.result("43: 0 behind the end", again, 1, 67, 80, 40, 18, 14, 30, 60, 80, (60 + 30) / 2);
         DrawnSounds y = new DrawnSounds();
         Due.sound(y, Due.row(30, 60, 90, 90));
         y.pieces(8, 1, 0);

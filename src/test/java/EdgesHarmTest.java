@@ -10,6 +10,7 @@ public final class EdgesHarmTest {
         harmOfNothing();
         harmOfSung();
         harmOfTheLatestThatDid();
+        harmOfTheLatestAlone();
         smearInTwiceWidth();
         smearBelowLength();
         smearAsFarAsThereAre();
@@ -98,6 +99,24 @@ public final class EdgesHarmTest {
         Due.same("21: of the draw still", x.harm(0), 40);
         x.sharp(1, 1);
         Due.same("21: of the sharp", x.harm(0), 0);
+    }
+
+    /** The SEAMS and the SOUND of a longer drawing ahead of it do not count. */
+    private static void harmOfTheLatestAlone() {
+        DrawnSounds x = made("tone 4 2000 300;tone 4 2000 300;", "mark 1 1199;mark 600 1200;", 4, 2, 0);
+        x.draw(0, 0);
+        Due.same("21: a long one", x.harm(0), 599 * 4000);
+        Due.sound(x, Due.row(50, 60, 70, 80, 0));
+        Due.map(x, "mark 5 10;");
+        x.pieces(4, 1, 0);
+        x.blowing(200, 3, 40);
+        Due.same("12: seams", x.draw(1, 1), 3);
+        // 80 meets 50 less .. : as by ringBehindTheEnd
+        Due.same("21: its own seams", x.harm(0), x.seam(0, 2) + x.seam(1, 2) + x.seam(2, 2));
+        Due.same("21: silence behind its own end", x.harm(3), 80);
+        Due.same("16: no other seam", x.seam(3, 0), -5000);
+        Due.same("14: its own length", x.length(), 10);
+        Due.same("15: its own result", x.result(10), -5000);
     }
 
     /** The sound has 400 at 8 and 200 at another place; result 8, 9, 10, 11 are its 8, 9, 11, 12. */

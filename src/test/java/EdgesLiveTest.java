@@ -218,6 +218,10 @@ public final class EdgesLiveTest {
         }
         DrawnSounds x = made("still 300;still 300;", 4, 1, 0, "mark 600 4;", "mark 1 1;", "mark 4 1200;");
         Due.same("52: one of 600", x.lost(0, 0, 1), 2047 * 599);
+        // 9 all along: those that the sound has more count 2,047 each, whatever they are
+        DrawnSounds y = made(Due.row(9, 9, 9, 9, 9), 4, 1, 0, "mark 5 5;", "mark 5 3;", "mark 5 7;");
+        Due.same("52: two fewer", y.lost(0, 0, 1), 2 * 2047);
+        Due.same("52: two more", y.lost(0, 0, 2), 2 * 2047);
         Due.same("52: 1,200 of 600", x.lost(0, 0, 2), 2047 * 600);
     }
 
@@ -397,12 +401,17 @@ public final class EdgesLiveTest {
         x.part(10, 1, 0, 12);
         x.hum(800);
         Due.same("24: the second", x.best(0, 0), 1);
-        Due.same("27: the second", x.planned(22, 1), 12);
+        Due.same("27: the second", x.planned(15, 1), 5);
         Due.same("36: the second", x.meant(0, 0), 1);
         x.restore();
         Due.same("24: the first", x.best(0, 0), 0);
         Due.same("27: no second", x.planned(12, 1), -5000);
         Due.same("27: the first", x.planned(12, -1), 10);
+        Due.same("27: the first", x.planned(12, 0), 12);
+        Due.same("27: no more than the first may be", x.planned(13, -1), -5000);
+        Due.same("28: the first", x.planMap(12), 1);
+        Due.same("8: the first", x.told(1, 0), 1);
+        Due.same("8: the first", x.told(1, 2), 10);
         Due.same("36: the first", x.meant(0, 0), 0);
         Due.same("36: no second", x.meant(0, 1), -1);
         Due.same("23: the second again", x.way(4, 1, 0), 1);

@@ -146,6 +146,8 @@ public final class EdgesTextsTest {
 
     /** "texts of up to 300 bytes": all of the tape may be one. */
     private static void textsOf300Bytes() {
+        Due.same("3: no sign of a text ahead", behindATextOf(";", " ".repeat(13) + "still 1"), -9);
+        Due.same("3: no number of a text ahead", behindATextOf("1;", " ".repeat(14) + "still "), -9);
         right("still 1;" + " ".repeat(292), 1);
         right(" ".repeat(292) + "still 1;", 1);
         right("still " + "0".repeat(291) + "10;", 10);
@@ -158,6 +160,14 @@ public final class EdgesTextsTest {
         wrongMap("mark 1 1;" + " ".repeat(290) + "x", 1, 299);
         wrongMap("mark 1" + " ".repeat(294), 1, 300);
         wrongMap(" ".repeat(300), 4, 300);
+    }
+
+    /** What a text of 20 bytes is, where the tape was full of others ahead of it. */
+    private static int behindATextOf(String others, String text) {
+        DrawnSounds x = new DrawnSounds();
+        Due.sound(x, others.repeat(300 / others.length()));
+        Due.same("20 bytes", text.length(), 20);
+        return Due.sound(x, text);
     }
 
     /** "{ CLAUSE ";" }, at most 16": hums count too. */
@@ -639,6 +649,12 @@ public final class EdgesTextsTest {
         Due.same("6: those behind are not read", x.size(0), 4);
         Due.same("55: and gone", x.count(7), 0);
         Due.feed(x, "still 6;still 5;");
+        Due.same("3: the first 7, without the sign behind", x.sound(7), -9);
+        Due.same("5: it ends too early", x.fault(), 7);
+        Due.feed(x, "still 66;");
+        Due.same("3: the first 6, without the number", x.sound(6), -9);
+        Due.same("5: it ends too early", x.fault(), 6);
+        Due.feed(x, "still 6;still 5;");
         Due.same("3: all of 20, zeros behind", x.sound(20), -9);
         Due.same("5: the first of them", x.fault(), 16);
         Due.same("55: the tape is empty behind a fault", x.count(7), 0);
@@ -689,6 +705,9 @@ public final class EdgesTextsTest {
         Due.same("4: the first 9 of 20", x.map(9), 0);
         Due.same("8: those behind are not read", x.told(0, 0), 1);
         Due.same("55: and gone", x.count(7), 0);
+        Due.feed(x, "mark 4 5;mark 6 7;");
+        Due.same("4: the first 8, without the sign behind", x.map(8), -9);
+        Due.same("5: it ends too early", x.fault(), 8);
         Due.feed(x, "mark 4 5;mark 6 7;");
         Due.same("4: all of 20, zeros behind", x.map(20), -9);
         Due.same("5: the first of them", x.fault(), 18);

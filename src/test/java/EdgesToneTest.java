@@ -410,6 +410,12 @@ public final class EdgesToneTest {
         for (int k = 0; k < due.length; k++) {
             Due.same("45: peak " + k, x.peak(0, 0, 3, k), due[k]);
         }
+        // 4 by 4, 0 by 5 and 6, 4 by 7 to 10, 8 by 11, 4 by 12, 8 by all others
+        DrawnSounds y = made(Due.row(1, 0, 0, 1));
+        int[] four = {11, 13, 4, 7, -1};
+        for (int k = 0; k < four.length; k++) {
+            Due.same("45: with 4, peak " + k, y.peak(0, 0, 4, k), four[k]);
+        }
     }
 
     /** "The k-th PEAK of SAMPLES from one on; NONE." */
