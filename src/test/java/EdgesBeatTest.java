@@ -15,6 +15,7 @@ public final class EdgesBeatTest {
         beatOfFewerThanTwo();
         beatRefusals();
         numbersAtHalfAStep();
+        numbersAheadOfTheStart();
         ontoLimits();
         ontoAboveZero();
         ontoMarksThatRise();
@@ -170,6 +171,18 @@ public final class EdgesBeatTest {
         Due.same("40: onto", y.onto(0, 10), 0);
         Due.same("9: the first one", y.place(0, 10), 2);
         Due.same("9: 13 is number 3, three more", y.place(0, 40), 13);
+    }
+
+    /** "(cut; BLOW less a may be below 0)" */
+    private static void numbersAheadOfTheStart() {
+        // by 100 from 99 on: (twice less 99 and 100) by 200 is less 98 by 200: number 0, as 99 is
+        DrawnSounds x = blowsAt(310, 0, 99, 199, 299);
+        beat("0, 99, 199, 299", x, 100, 99, 1);
+        marks("number 0 twice", x, 10, 30 + 11, mark(99, 10), mark(199, 20), mark(299, 30));
+        // the same one behind: by 100 from 0 on, 1 is number 0, 100 is number 1
+        DrawnSounds y = blowsAt(310, 1, 100, 200, 300);
+        beat("1, 100, 200, 300", y, 100, 0, 1);
+        marks("numbers 0 to 3", y, 10, 40 + 10, mark(1, 10), mark(100, 20), mark(200, 30), mark(300, 40));
     }
 
     /** "ONTO a step q (1 to 200)" */
