@@ -40,6 +40,7 @@ public final class EdgesBeatTest {
         resampledBehindItsEnd();
         resampledCutTowardZero();
         movedBackToAsMany();
+        movedByNothing();
         shiftRefusals();
         filmLimits();
         filmUpTo1200();
@@ -577,6 +578,27 @@ public final class EdgesBeatTest {
         Due.same("55: seams", x.count(2), 2);
         Due.same("16: r", x.seam(0, 0), 3);
         Due.same("17: it may be kept", x.keep(), 1);
+    }
+
+    /** RESAMPLED by 1 and 1, all 600 are as they were: what comes is what is DRAWN by one mark. */
+    private static void movedByNothing() {
+        DrawnSounds x = new DrawnSounds();
+        Due.sound(x, "hiss 2000 300 1;hiss 2000 300 2;");
+        Due.map(x, "mark 600 600;");
+        x.pieces(7, 2, 1);
+        int seams = x.draw(0, 0);
+        int[] drawn = new int[60];
+        for (int k = 0; k < 60; k++) {
+            drawn[k] = x.result(540 + k);
+        }
+        int harm = x.harm(0);
+        Due.same("43: as many seams", x.shift(0, 1, 1), seams);
+        for (int k = 0; k < 60; k++) {
+            Due.same("43: as it was drawn at " + (540 + k), x.result(540 + k), drawn[k]);
+        }
+        Due.same("21: as unlike", x.harm(0), harm);
+        Due.same("43: as many by 9 and 9", x.shift(0, 9, 9), seams);
+        Due.same("21: as unlike", x.harm(0), harm);
     }
 
     /** Promise 43: the exceptions "in the order of throws" */

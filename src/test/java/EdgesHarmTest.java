@@ -11,6 +11,7 @@ public final class EdgesHarmTest {
         harmOfSung();
         harmOfTheLatestThatDid();
         harmOfTheLatestAlone();
+        harmOfTheLastSeam();
         smearInTwiceWidth();
         smearBelowLength();
         smearAsFarAsThereAre();
@@ -117,6 +118,20 @@ public final class EdgesHarmTest {
         Due.same("16: no other seam", x.seam(3, 0), -5000);
         Due.same("14: its own length", x.length(), 10);
         Due.same("15: its own result", x.result(10), -5000);
+    }
+
+    /** "0 SEAMS: all UNLIKE together": the one at the last sample of 1,200, too. */
+    private static void harmOfTheLastSeam() {
+        // each piece begins at 0, the last one at 1, where 0 meets the 500 that ends the one ahead
+        DrawnSounds x = made("still 11;blow 500 1;still 300;still 288;", "mark 1 1199;mark 600 1200;", 12, 1, 0);
+        Due.same("12: seams", x.draw(0, 0), 109);
+        Due.same("16: the last one", x.seam(108, 0), 1199);
+        Due.same("16: the last one", x.seam(108, 2), 500);
+        Due.same("21: all of them", x.harm(0), 109 * 500);
+        x.way(12, 1, 0);
+        x.way(13, 1, 0);
+        Due.same("25: the last one is of the last part", x.bestOf(0, 0, 1), 1);
+        Due.same("25: all others are of the first part", x.bestOf(0, 0, 0), 1);
     }
 
     /** The sound has 400 at 8 and 200 at another place; result 8, 9, 10, 11 are its 8, 9, 11, 12. */
